@@ -28,10 +28,11 @@ public final class ChairTooFew {
     private static final int MOST_STOPS = 16;
     private static final int MOST_BYTES = 64;
     private static final int PARTS = 100;
+    private static final int GREATEST = 0x7fffffff;
 
-    private final Party real = new Party();
+    private final Mind mind = new Mind();
+    private final Party real = mind.real;
     private final Party kept = new Party();
-    private final Mind mind = new Mind(real);
     private final Numbers stops = new Numbers(MOST_STOPS);
     private final Numbers pictures = new Numbers(MOST_PLACES);
     private final Text text = new Text();
@@ -508,7 +509,7 @@ public final class ChairTooFew {
 
         private int mostCrowdedChair() {
             int crowded = 0;
-            int least = Integer.MAX_VALUE;
+            int least = GREATEST;
             for (int c = 0; c < chairs; c++) {
                 int before = placeOfChair(c > 0 ? c - 1 : chairs - 1);
                 int behind = placeOfChair(c < chairs - 1 ? c + 1 : 0);
@@ -552,7 +553,7 @@ public final class ChairTooFew {
 
         int drawAgain() {
             z = z * 1103515245 + 12345;
-            return (z & Integer.MAX_VALUE) / 65536 % 100;
+            return (z & GREATEST) / 65536 % 100;
         }
 
         boolean stopsIn(int tenth, int draw, boolean likes) {
@@ -578,7 +579,7 @@ public final class ChairTooFew {
 
     /** Who would sit where; its rows are only good till the party changes. */
     private static final class Seating {
-        private static final int OUT_OF_REACH = Integer.MAX_VALUE;
+        private static final int OUT_OF_REACH = GREATEST;
 
         private final int[] seats = new int[MOST_WALKERS];
         private final int[] hastes = new int[MOST_WALKERS * MOST_CHAIRS];
@@ -665,6 +666,7 @@ public final class ChairTooFew {
         final Player player = new Player();
         final Seating seating = new Seating();
         final Walker[] walkers = new Walker[MOST_WALKERS];
+        private final boolean[] stoodOn = new boolean[MOST_PLACES];
         int walkerCount = 0;
         int form = 0;
         int tenths = 0;
@@ -684,6 +686,7 @@ public final class ChairTooFew {
             for (int w = 0; w < walkerCount && w < MOST_WALKERS; w++) {
                 walkers[w].become(model.walkers[w]);
             }
+            System.arraycopy(model.stoodOn, 0, stoodOn, 0, MOST_PLACES);
             form = model.form;
             tenths = model.tenths;
             rounds = model.rounds;
@@ -713,12 +716,13 @@ public final class ChairTooFew {
         }
 
         boolean isStoodOn(int place) {
-            for (int w = 0; w < walkerCount && w < MOST_WALKERS; w++) {
-                if (walkers[w].in && walkers[w].place == place) {
-                    return true;
-                }
+            return place >= 0 && place < MOST_PLACES && stoodOn[place];
+        }
+
+        private void mark(int place, boolean stood) {
+            if (place >= 0 && place < MOST_PLACES) {
+                stoodOn[place] = stood;
             }
-            return false;
         }
 
         int whyNoChair(int place) {
@@ -755,6 +759,7 @@ public final class ChairTooFew {
             int number = walkerCount;
             if (number >= 0 && number < MOST_WALKERS) {
                 walkers[number].arrive(place, kind, fast);
+                mark(place, true);
                 walkerCount = number + 1;
                 ended = false;
             }
@@ -762,8 +767,8 @@ public final class ChairTooFew {
         }
 
         void walkAll() {
-            for (int w = 0; w < walkerCount; w++) {
-                if (knowsIn(w)) {
+            for (int w = 0; w < walkerCount && w < MOST_WALKERS; w++) {
+                if (walkers[w].in) {
                     walk(walkers[w]);
                 }
             }
@@ -778,6 +783,8 @@ public final class ChairTooFew {
             if (isStoodOn(ahead)) {
                 who.parts = PARTS - 1;
             } else {
+                mark(who.place, false);
+                mark(ahead, true);
                 who.parts -= PARTS;
                 who.place = ahead;
             }
@@ -792,7 +799,7 @@ public final class ChairTooFew {
         }
 
         private boolean isLikedAtChair() {
-            int liked = walkerCount > 0 ? player.figure % walkerCount : NONE;
+            int liked = player.kind == Player.LIKING && walkerCount > 0 ? player.figure % walkerCount : NONE;
             return knowsIn(liked) && ring.hasChair(walkers[liked].place);
         }
 
@@ -805,6 +812,7 @@ public final class ChairTooFew {
             }
             if (knows(goer)) {
                 walkers[goer].in = false;
+                mark(walkers[goer].place, false);
             }
             tenths = 0;
             rounds++;
@@ -848,30 +856,25 @@ public final class ChairTooFew {
         // More than twelve rounds can't come: in each one somebody goes, or it is the last.
         private static final int PARTY_TENTHS = (MOST_WALKERS + 1) * ROUND_TENTHS;
 
-        private final Party real;
+        final Party real = new Party();
         private final Party thought = new Party();
-        private final Reader reader = new Reader();
         private final int[] times = new int[MOST_WALKERS];
         private int tenthsAhead = 0;
         private int roundsAhead = 0;
 
-        Mind(Party real) {
-            this.real = real;
-        }
-
         /** The party that a text tells comes, or nothing and the fault is told. */
         int readParty(Text text) {
-            int wrong = reader.firstMisfit(text);
+            int wrong = text.firstMisfit();
             if (wrong >= 0) {
                 return -1000 - wrong;
             }
             thought.become(real);
-            wrong = reader.firstImpossible(text, thought);
+            wrong = text.firstImpossible(thought);
             if (wrong >= 0) {
                 return -2000 - wrong;
             }
             real.become(thought);
-            return reader.statements;
+            return text.statements;
         }
 
         int oddsAt(int walker, int n, int slow) {
@@ -979,7 +982,7 @@ public final class ChairTooFew {
 
         int kindOfFewestTenths() {
             int best = 0;
-            int fewest = Integer.MAX_VALUE;
+            int fewest = GREATEST;
             for (int kind = 0; kind < PLAYER_KINDS; kind++) {
                 thought.become(real);
                 thought.player.kind = kind;
@@ -1111,10 +1114,17 @@ public final class ChairTooFew {
         }
     }
 
-    /** The bytes of a party that are there so far. */
+    /** The bytes of a party that are there so far; it is read statement by statement. */
     private static final class Text {
+        private static final char NUMBER = '#';
+        private static final char DIGIT = 'd';
+
         private final byte[] bytes = new byte[MOST_BYTES];
+        private final int[] values = new int[3];
+        private int at = 0;
+        private int used = 0;
         int length = 0;
+        int statements = 0;
 
         void append(int n, long low) {
             for (int i = 0; i < n && length < MOST_BYTES; i++) {
@@ -1123,27 +1133,10 @@ public final class ChairTooFew {
             }
         }
 
-        /** The byte there, -1 at the end, so that the end fits no sign. */
-        int at(int i) {
-            return i >= 0 && i < length && i < MOST_BYTES ? bytes[i] & 255 : -1;
-        }
-    }
-
-    /** Reads a text, statement by statement. */
-    private static final class Reader {
-        private static final char NUMBER = '#';
-        private static final char DIGIT = 'd';
-
-        private final int[] values = new int[3];
-        private Text text = null;
-        private int at = 0;
-        private int used = 0;
-        int statements = 0;
-
         /** The place of the first byte with which no party goes on; -1 if there is none. */
-        int firstMisfit(Text from) {
-            begin(from);
-            for (int i = 0; i < MOST_BYTES && (i == 0 || at < from.length); i++) {
+        int firstMisfit() {
+            begin();
+            for (int i = 0; i < MOST_BYTES && (i == 0 || at < length); i++) {
                 if (!readStatement()) {
                     return at;
                 }
@@ -1152,19 +1145,19 @@ public final class ChairTooFew {
         }
 
         /** The place of the first statement that can't be behind those ahead of it, which come; -1 if all came. */
-        int firstImpossible(Text from, Party party) {
-            begin(from);
-            for (int i = 0; i < MOST_BYTES && at < from.length; i++) {
+        int firstImpossible(Party party) {
+            begin();
+            for (int i = 0; i < MOST_BYTES && at < length; i++) {
                 int start = at;
-                if (!readStatement() || !comesTrue(from.at(start), party)) {
+                int letter = signAhead();
+                if (!readStatement() || !comesTrue(letter, party)) {
                     return start;
                 }
             }
             return -1;
         }
 
-        private void begin(Text from) {
-            text = from;
+        private void begin() {
             at = 0;
             statements = 0;
         }
@@ -1222,8 +1215,9 @@ public final class ChairTooFew {
             return digits > 0;
         }
 
+        // -1 at the end: the end fits no sign.
         private int signAhead() {
-            return text == null ? -1 : text.at(at);
+            return at >= 0 && at < length && at < MOST_BYTES ? bytes[at] & 255 : -1;
         }
 
         private static boolean isDigit(int sign) {
