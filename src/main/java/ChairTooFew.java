@@ -473,7 +473,7 @@ public final class ChairTooFew {
         }
 
         void putChair(int place) {
-            if (chairs >= MOST_CHAIRS || !isPlace(place)) {
+            if (chairs >= MOST_CHAIRS || place < 0 || place >= MOST_PLACES) {
                 return;
             }
             int c = chairs;

@@ -358,6 +358,13 @@ public final class EdgeTest {
         ChairTooFew y = drawn(2, 5, w);
         is("LONG 5: not drawn in 5", y.go(5), 0);
         is("LONG 5: in 6, or more", y.go(1), 1);
+        int e = 0;
+        while (draw(e, 5) != 5) e++;
+        ChairTooFew even = drawn(2, 5, e);
+        even.player(4, 99);
+        even.go(4);
+        even.player(2, 5);
+        is("as an EVEN: a DRAW of 5 is not below 5", even.go(1), 0);
         is("LONG 1: in the first", drawn(2, 1, seedOfDraw(0)).go(1), 1);
         ChairTooFew again = drawn(2, 5, z);
         again.go(5);

@@ -15,6 +15,7 @@ public final class MindEdgeTest {
         bestSlowOfSeveral();
         cheatOfTen();
         cheatOfNone();
+        ofOneThatWent();
         lastsWholeParty();
         lastsFromAllAsItIs();
         lastsLongest();
@@ -160,6 +161,7 @@ public final class MindEdgeTest {
         is("all as often", two.fair(200), 0);
         two.stop();
         is("ENDED matters not", two.fair(200), 0);
+        is("all never", read("n4;w0,0,1;w1,0,1;").fair(200), 0);
     }
 
     // "of 10, 20, .. 90 that by which its ODDS are greatest"
@@ -229,6 +231,17 @@ public final class MindEdgeTest {
         is("now's are three, by 21 five", y.cheat(0, 12), 5 - 3);
         y.set(0, 1, 99);
         is("as many as now are none", y.cheat(0, 2), 0);
+    }
+
+    /** BEST SLOW, CHEAT and WINS do not say "not IN, too": one that went sits in no TENTH and never wins. */
+    private static void ofOneThatWent() {
+        ChairTooFew x = busy();
+        int gone = 0;
+        while (gone < 3 && x.of(gone, 2) == 1) gone++;
+        is("not IN", x.of(gone, 2), 0);
+        is("all as bad: the least", x.bestSlow(gone, 200), 10);
+        is("none", x.cheat(gone, 200), 0);
+        is("never", x.wins(gone, 20, 1), 0);
     }
 
     // "0 none."
@@ -472,6 +485,17 @@ public final class MindEdgeTest {
         is("one of them always", x.team(0, 1, 200, 0), 200 - Math.max(x.odds(0, 200), x.odds(1, 200)));
         is("as one way as the other", x.team(1, 0, 200, 0), x.team(0, 1, 200, 0));
         is("one TENTH", x.team(0, 1, 1, 0), 0);
+        ChairTooFew one = read("c5;w4,0,50;w19,0,50;p4,99;");
+        one.set(0, 2, 0);
+        one.set(1, 2, 0);
+        // 0 is at 5 from the 2nd to the 5th TENTH, 1 from the 20th on, for four.
+        int[] n = {1, 2, 5, 19, 20, 21, 22, 23, 24, 43};
+        int[] gain = {0, 0, 0, 0, 1, 2, 3, 4, 4, 4};
+        for (int i = 0; i < n.length; i++) {
+            is("behind others in mind", one.fair(7), 4);
+            is("at least one in " + n[i], one.team(0, 1, n[i], 0), gain[i]);
+            is("the other way", one.team(1, 0, n[i], 0), gain[i]);
+        }
         ChairTooFew none = read("n4;w0,0,50;w2,0,50;");
         is("no CHAIR", none.team(0, 1, 200, 0) + none.team(0, 1, 200, 1), 0);
         ChairTooFew both = read("n4;c0;c1;w0,0,50;w2,0,50;");
@@ -545,14 +569,19 @@ public final class MindEdgeTest {
         ChairTooFew y = busy();
         x.image();
         y.image();
-        x.go(40);
+        is("the second ROUND stops", x.go(40) > 0 ? x.count(5) : 0, 2);
         x.chair(11);
-        x.walker(13, PLAIN, 50);
+        is("a WALKER more", x.walker(13, PLAIN, 99), 4);
         for (int what = 0; what < 6; what++) x.set(0, what, 2);
         x.player(2, 3);
         x.form(1);
         x.seed(12);
-        is("as many as then", x.restore(), 3);
+        is("TENTHS", x.go(1) >= 0 ? 1 : 0, 1);
+        is("as many as then", x.restore(), 4);
+        is("nobody more", x.of(4, 0), -1);
+        is("one that comes then", x.walker(13, PLAIN, 50), 4);
+        is("has gone 0 parts", x.of(4, 1), 0);
+        is("restored once more", x.restore(), 4);
         Twin.alike(DUE, "behind restore() all is as it was", x, y);
         ChairTooFew ended = read("c0;c8;w0,0,50;w8,0,50;p4,3;");
         ended.go(3);
@@ -574,15 +603,17 @@ public final class MindEdgeTest {
         return x;
     }
 
+    /** Seven TENTHS of a second ROUND that goes on; one is not IN. */
     private static ChairTooFew busy() {
-        ChairTooFew x = read("n30;c0;c9;c20;w1,3,40;w12,6,60;w25,5,77;f2;p4,33;");
+        ChairTooFew x = read("n30;c0;c9;c20;w1,3,40;w12,6,60;w25,5,77;w28,0,9;f2;p4,33;");
         x.set(0, 1, 9);
         x.set(1, 2, 4);
         x.set(2, 3, 8);
         x.set(0, 4, 1);
         x.seed(-44);
-        x.stop();
-        x.go(7);
+        is("one goes", x.stop() >= 0 ? x.count(3) : 0, 3);
+        is("it goes on", x.go(7), 0);
+        is("ROUNDS and TENTHS", x.count(5) * 10 + x.count(4), 17);
         return x;
     }
 
@@ -605,7 +636,7 @@ public final class MindEdgeTest {
         is("REFUSALS", x.count(11), 1);
         is("a CHAIR", x.has(8), 0);
         x.chair(8);
-        is("the image is there yet", x.restore(), 3);
+        is("the image is there yet", x.restore(), 4);
         is("a CHAIR", x.has(8), 0);
         is("TEXT is read as fed", x.party(), 2);
     }

@@ -583,7 +583,7 @@ public final class RoundEdgeTest {
         is("FORM 1", leaving(1, 6, 7), 7);
         is("FORM 0 of 11", leaving(0, 11, 10, 9, 8, 7, 6, 5, 4, 3, 2, 1), 1);
         is("FORM 1 of 11", leaving(1, 1, 2, 3, 4, 5, 6, 7, 8, 9, 10, 11), 11);
-        ChairTooFew first = chairs(9, 4);
+        ChairTooFew first = chairs(9, 8, 7, 4);
         walker(first, 22, PLAIN, 50, 0);
         walker(first, 20, PLAIN, 50, 0);
         is("0 at first", first.would(1), 4);
