@@ -32,6 +32,7 @@ public final class MindEdgeTest {
         filmOfSixty();
         filmFirstWrong();
         imageOfAll();
+        imageWithoutWhoCameBehindIt();
         imageButIt();
         mindChangesNothing();
         DUE.end();
@@ -595,6 +596,31 @@ public final class MindEdgeTest {
         ring.restore();
         is("N, too", ring.count(0), 24);
         Twin.alike(DUE, "a new object again", ring, with());
+    }
+
+    // Who came behind the image is no WALKER of it: in nobody's way, at no CHAIR, given nothing.
+    private static void imageWithoutWhoCameBehindIt() {
+        ChairTooFew x = read("n4;c0;w0,6,50;w1,0,50;p4,99;");
+        ChairTooFew y = read("n4;c0;w0,6,50;w1,0,50;p4,99;");
+        x.set(0, 4, 9);
+        y.set(0, 4, 9);
+        x.image();
+        y.image();
+        x.walker(2, PLAIN, 99);
+        x.walker(3, PLAIN, 99);
+        is("who came sits at times", x.odds(2, 9) + x.odds(3, 9) > 0 ? 1 : 0, 1);
+        is("SITS of all", x.sits(0) + x.sits(1) + x.sits(2) + x.sits(3) > -36 ? 1 : 0, 1);
+        x.restore();
+        for (int t = 0; t < 20; t++) {
+            is("goes by", x.go(1), y.go(1));
+            for (int w = 0; w < 2; w++) {
+                is("PLACE", x.of(w, 0), y.of(w, 0));
+                is("parts", x.of(w, 1), y.of(w, 1));
+                is("SITS", x.sits(w), y.sits(w));
+            }
+            is("who would GO", x.would(0), y.would(0));
+        }
+        Twin.alike(DUE, "as without them", x, y);
     }
 
     private static ChairTooFew with() {

@@ -27,6 +27,7 @@ public final class RoundEdgeTest {
         leastNumberOfThese();
         byNumbersOnce();
         whenAllAreSeated();
+        judgedOfTwelve();
         onlyWhoDoesNotSitGets();
         farthestGoes();
         nearestChairCounts();
@@ -464,6 +465,26 @@ public final class RoundEdgeTest {
         is("12 is taken", z.sits(2), 12);
         is("10 is given", z.sits(1), 10);
         is("who gave stays without", z.sits(0), -9);
+    }
+
+    // All twelve: one that sits looks through all the others for one that has as little HASTE.
+    private static void judgedOfTwelve() {
+        ChairTooFew x = new ChairTooFew();
+        is("twelve", Twin.read(x, "c0;p4,99;"), 2);
+        x.walker(0, JUDGED, 50);
+        for (int w = 1; w < 12; w++) walker(x, w, PLAIN, 50, w < 6 ? 0 : 9);
+        is("10 of the twelfth's 22 is less", x.sits(0), 0);
+        x.set(11, 0, 99);
+        x.set(11, 5, 5);
+        x.set(11, 3, 0);
+        is("out of REACH", x.sits(0), 0);
+        ChairTooFew y = new ChairTooFew();
+        y.chair(0);
+        y.walker(0, JUDGED, 50);
+        for (int w = 1; w < 11; w++) walker(y, w + 5, PLAIN, 50, 0);
+        walker(y, 19, PLAIN, 50, 5);
+        is("the twelfth has 10, too", y.sits(11), 0);
+        is("who gave it", y.sits(0), -9);
     }
 
     private static void onlyWhoDoesNotSitGets() {
