@@ -398,6 +398,12 @@ public final class EdgeTest {
 
     // "is IN and at a PLACE with a CHAIR"
     private static void likingWhoIsThere() {
+        for (int draw = 0; draw < 100; draw += 33) {
+            ChairTooFew whatever = ring(24, 0, 0, 10);
+            whatever.player(3, 2);
+            whatever.seed(seedOfDraw(draw));
+            is("whatever is drawn: " + draw, whatever.go(1), 2);
+        }
         ChairTooFew x = ring(24, 0, 22, 10);
         x.player(3, 2);
         is("as it is behind the TENTH: not at 23", x.go(3), 0);
@@ -487,6 +493,14 @@ public final class EdgeTest {
         ChairTooFew told = drawn(4, 1, 7);
         told.go(1);
         is("the TENTH that stops, too", told.seed(1), after(7));
+        ChairTooFew last = drawn(3, 1, 7);
+        last.set(1, 0, 1);
+        int z = 7;
+        for (int t = 0; t < 300; t++) z = after(z);
+        int gone = 0;
+        while (last.go(1) == 0) gone++;
+        is("the 300th is the last", gone, 299);
+        is("the 300th, too", last.seed(1), z);
         ChairTooFew stop = drawn(4, 9, 7);
         stop.stop();
         is("stop() is no TENTH", stop.seed(1), 7);

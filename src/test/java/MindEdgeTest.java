@@ -9,6 +9,7 @@ public final class MindEdgeTest {
         oddsOfOneTenth();
         oddsOfTwoHundred();
         playerNeverStops();
+        pastTheThreeHundredth();
         oddsBehindTheTenth();
         fairOfAllThatAreIn();
         bestSlowOfNine();
@@ -118,6 +119,32 @@ public final class MindEdgeTest {
         is("it did not stop", late.count(5), 0);
     }
 
+    private static ChairTooFew atTwoHundredNinety() {
+        ChairTooFew x = read("n60;c35;w0,0,10;w50,0,1;p3,1;");
+        x.set(0, 2, 0);
+        x.set(1, 2, 0);
+        is("LIKING one who comes to no CHAIR", x.go(290), 0);
+        return x;
+    }
+
+    // "THE PLAYER never stops" though the 300th TENTH of the ROUND is among them: they go on behind it.
+    private static void pastTheThreeHundredth() {
+        // 0 comes to 35 in the 350th TENTH of the ROUND and leaves in the 370th, by SLOW 5.
+        is("the 349th", atTwoHundredNinety().odds(0, 59), 0);
+        is("the 350th", atTwoHundredNinety().odds(0, 60), 1);
+        is("the 369th", atTwoHundredNinety().odds(0, 79), 20);
+        is("the 370th", atTwoHundredNinety().odds(0, 80), 20);
+        is("the 490th", atTwoHundredNinety().odds(0, 200), 20);
+        is("FAIR", atTwoHundredNinety().fair(200), 20);
+        is("TEAM", atTwoHundredNinety().team(1, 0, 200, 1), 20);
+        is("CHEAT", atTwoHundredNinety().cheat(0, 200), 80);
+        ChairTooFew x = atTwoHundredNinety();
+        for (int t = 291; t <= 350; t++) x.film(t / 10);
+        is("a FILM", x.judge(0), -9);
+        for (int t = 291; t <= 350; t++) x.film(t < 350 ? t / 10 : 34);
+        is("a FILM wrong at the 350th", x.judge(0), 59);
+    }
+
     private static int zBehind(int tenths) {
         int z = 1;
         for (int t = 0; t < tenths; t++) z = z * 1103515245 + 12345;
@@ -162,6 +189,12 @@ public final class MindEdgeTest {
         is("all as often", two.fair(200), 0);
         two.stop();
         is("ENDED matters not", two.fair(200), 0);
+        ChairTooFew gone = read("n8;c0;c1;w0,0,1;w1,0,1;w4,0,1;f2;p4,99;");
+        for (int w = 0; w < 3; w++) gone.set(w, 2, 1);
+        is("one never, two always", gone.fair(99), 99);
+        is("the one GOES", gone.stop(), 2);
+        gone.chair(0);
+        is("two always; one who is not IN does not count", gone.fair(99), 0);
         is("all never", read("n4;w0,0,1;w1,0,1;").fair(200), 0);
     }
 

@@ -442,6 +442,19 @@ public final class RoundEdgeTest {
         x.walker(15, PLAIN, 50);
         is("once each", x.sits(0), 10);
         is("not to the other", x.sits(2), -9);
+        // 0 and 1 give theirs to 3 and 4, 2 gives its to 0; 1 is nearer there than 0, who has had its turn.
+        ChairTooFew turn = chairs(8, 12, 17);
+        turn.walker(16, JUDGED, 50);
+        turn.walker(9, JUDGED, 50);
+        turn.walker(6, JUDGED, 50);
+        for (int w = 0; w < 3; w++) for (int what = 3; what < 5; what++) turn.set(w, what, 0);
+        walker(turn, 18, PLAIN, 50, 1);
+        walker(turn, 7, PLAIN, 50, 1);
+        is("who got the CHAIR behind its turn keeps it", turn.sits(0), 12);
+        is("who is nearer gets none", turn.sits(1), -9);
+        is("who gave it", turn.sits(2), -9);
+        is("to whom 0 gave", turn.sits(3), 17);
+        is("to whom 1 gave", turn.sits(4), 8);
     }
 
     // "when all are seated)"
